@@ -300,7 +300,7 @@ public final class OfficeLadder {
         if (!isYear(year)) {
             return WRONG;
         }
-        filler.searchAll(republic, year, NO_ONE, ANY_OFFICE);
+        filler.search(republic, year, NO_ONE, ANY_OFFICE, false);
         return filler.spent ? SPENT : filler.found;
     }
 
@@ -308,7 +308,7 @@ public final class OfficeLadder {
         if (!isYear(year)) {
             return WRONG;
         }
-        filler.searchFirst(republic, year);
+        filler.search(republic, year, NO_ONE, ANY_OFFICE, true);
         if (filler.spent) {
             return SPENT;
         }
@@ -323,7 +323,7 @@ public final class OfficeLadder {
         if (!republic.hasPerson(person) || !republic.hasOffice(office) || !isYear(year)) {
             return WRONG;
         }
-        filler.searchAll(republic, year, person, office);
+        filler.search(republic, year, person, office, false);
         return filler.spent ? SPENT : filler.hits;
     }
 
@@ -917,29 +917,11 @@ public final class OfficeLadder {
         private final boolean[] kinBound = new boolean[MOST_OFFICES];
         private final int[] putInto = new int[MOST_OFFICES];
 
-        /** Finds all FILLINGS, and counts as hits those with one put into an OFFICE. */
-        void searchAll(Republic republic, int year, int person, int office) {
+        /** Finds all FILLINGS, or the first; hits are those with that person put into that OFFICE. */
+        void search(Republic republic, int year, int person, int office, boolean stopAtFirst) {
             askedPerson = person;
             askedOffice = office;
-            onlyFirst = false;
-            search(republic, year);
-        }
-
-        void searchFirst(Republic republic, int year) {
-            askedPerson = NO_ONE;
-            askedOffice = ANY_OFFICE;
-            onlyFirst = true;
-            search(republic, year);
-        }
-
-        /** Puts in what searchFirst found. */
-        void putIn(Republic republic, int year) {
-            for (int k = 0; k < slots; k++) {
-                republic.put(chosen[k], slotOffice[k], year, slotSeat[k]);
-            }
-        }
-
-        private void search(Republic republic, int year) {
+            onlyFirst = stopAtFirst;
             found = 0;
             hits = 0;
             tries = 0;
@@ -953,6 +935,13 @@ public final class OfficeLadder {
                 able[o] = ableIn(republic, o, year);
             }
             place(republic, 0);
+        }
+
+        /** Puts in the FILLING at which a search stopped. */
+        void putIn(Republic republic, int year) {
+            for (int k = 0; k < slots; k++) {
+                republic.put(chosen[k], slotOffice[k], year, slotSeat[k]);
+            }
         }
 
         private void addSlots(Office of, int office, int year) {

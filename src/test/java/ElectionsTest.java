@@ -76,6 +76,10 @@ public final class ElectionsTest {
         OfficeLadder x = new OfficeLadder();
         x.election(4, 1);
         Due.is("no votes: the least", x.elected(0L, 0, 0), 0);
+        x.vote(3, 1);
+        x.elected(0L, 0, 0);
+        x.election(4, 1);
+        Due.is("no votes again: the least", x.elected(0L, 0, 0), 0);
         x.vote(20, 8);
         Due.is("one vote", x.elected(0L, 0, 0), 3);
         Due.is("not by 18 votes", x.elected(0L, 0, 1), 35);
@@ -132,6 +136,7 @@ public final class ElectionsTest {
         Due.is("0", x.elected(0L, 0, 0), 0);
         Due.is("the lesser of two", x.elected(0L, 1, 0), 1);
         Due.is("after 27", x.elected(0L, 1, 1), 27);
+        Due.is("sure, though the next has as many", x.sure(0L), 27);
     }
 
     private static void wrongElected() {
@@ -178,6 +183,36 @@ public final class ElectionsTest {
         y.vote(16, 5);
         Due.is("one by 18, the other 14 ahead", y.sure(0L), 21);
         Due.is("who is elected then", y.elected(0L, 1, 0), 1);
+        fewVotesOfFour();
+    }
+
+    /** Each of four in turn has the votes of 14 UNITS, the next one those of 4: 10 ahead. */
+    private static void fewVotesOfFour() {
+        for (int most = 0; most < 4; most++) {
+            for (int next = 0; next < 4; next++) {
+                if (next != most) {
+                    OfficeLadder x = new OfficeLadder();
+                    x.election(4, 1);
+                    for (int u = 0; u < 18; u++) {
+                        x.vote(u, u < 14 ? 1 << most : 1 << next);
+                    }
+                    Due.is(most + " is 10 ahead of " + next, x.sure(0L), 25);
+                    x.election(4, 2);
+                    for (int u = 0; u < 14; u++) {
+                        x.vote(u, 1 << most | 1 << next);
+                    }
+                    Due.is(most + " and " + next + " are 14 ahead", x.sure(0L), 21);
+                    int other = 0;
+                    while (other == most || other == next) {
+                        other++;
+                    }
+                    for (int u = 14; u < 17; u++) {
+                        x.vote(u, 1 << most | 1 << other);
+                    }
+                    Due.is(next + " is 11 ahead of " + other, x.sure(0L), 24);
+                }
+            }
+        }
     }
 
     private static void drawn() {
@@ -227,6 +262,7 @@ public final class ElectionsTest {
         Due.is("n 0", x.province(0, 9, 1, 0, 0L), -1);
         Due.is("n 10", x.province(0, 9, 1, 10, 0L), -1);
         Due.is("n 1", x.province(0, 9, 1, 1, Long.MAX_VALUE), 0);
+        Due.is("number 0", x.province(0, 9, 1, 9, 0L), 0);
         Due.is("number -1", x.province(0, 9, 1, 1, -1L), -1);
         Due.is("seat 3", x.province(0, 9, 3, 1, 0L), -1);
         Due.is("seat -1", x.province(0, 9, -1, 1, 0L), -1);

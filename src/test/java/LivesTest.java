@@ -107,6 +107,10 @@ public final class LivesTest {
         x.stone(0, 2, 60);
         Due.is("a free one, too", x.could(0, 0, 63, 1), 0);
         Due.is("a free one, too", x.could(0, 0, 64, 1), -2);
+        x.stone(0, 0, 70);
+        Due.is("that office, too", x.could(0, 0, 73, 1), 0);
+        x.annul(0, 70, 0, true);
+        Due.is("void", x.could(0, 0, 71, 1), -2);
         x.stone(0, 0, 0);
         Due.is("from the year 0", x.could(0, 0, 3, 1), 0);
         Due.is("from the year 0", x.could(0, 0, 4, 1), -2);
@@ -159,6 +163,14 @@ public final class LivesTest {
         Due.is("without a father told they are no brothers", x.could(0, 0, 70, 1), -2);
         x.stone(2, 0, 80);
         Due.is("an uncle", x.could(3, 0, 80, 1), -2);
+        x.person(0, 0, 0, 4);
+        x.stone(0, 0, 90);
+        x.annul(0, 90, 0, true);
+        for (int p = 1; p < 6; p++) {
+            Due.is("0 is void, for " + p, x.could(p, 0, 90, 1), -2);
+        }
+        x.stone(3, 1, 100);
+        Due.is("one is no kin of oneself", x.breach(0), -3);
     }
 
     private static void freeOffices() {
@@ -243,6 +255,9 @@ public final class LivesTest {
         x.annul(0, 50, 1, true);
         Due.is("void ones are none, nor bar", x.breaches(), 0);
         x.annul(0, 50, 1, false);
+        x.annul(0, 50, 0, true);
+        Due.is("void ones are none, nor bar", x.breaches(), 0);
+        x.annul(0, 50, 0, false);
         x.repeal(0, 50);
         Due.is("not in force any more", x.breaches(), 0);
         x.law(20, 1, 0, 200);
