@@ -3,6 +3,7 @@ import java.lang.reflect.Field;
 import java.lang.reflect.Method;
 import java.lang.reflect.Modifier;
 import java.util.Arrays;
+import java.util.List;
 import java.util.Set;
 import java.util.TreeSet;
 
@@ -39,6 +40,13 @@ public final class FaceTest {
         for (Method m : face.getDeclaredMethods()) {
             Due.isTrue("private " + m.getName() + " bears a public name",
                 !Modifier.isPrivate(m.getModifiers()) || !names.contains(m.getName()));
+        }
+        for (Method m : face.getDeclaredMethods()) {
+            if (Modifier.isPublic(m.getModifiers())) {
+                List<Class<?>> told = m.getName().equals("element")
+                    ? List.of(IllegalArgumentException.class, IllegalStateException.class) : List.of();
+                Due.isTrue(m.getName() + " names what it throws", told.equals(List.of(m.getExceptionTypes())));
+            }
         }
         for (Field f : face.getDeclaredFields()) {
             Due.isTrue("field " + f.getName() + " is private", Modifier.isPrivate(f.getModifiers()));
